@@ -71,22 +71,22 @@ public final class TitleDesk {
         }
         boolean fine = reader.read(tape.signs, n, draft);
         if (fine) {
-            useDraft();
+            takeDraft();
+            board.useScript(script, textTape.signs);
+            evening.start(script);
         }
         tape.clear();
         return fine ? script.titles : NONE;
     }
 
     // Tapes and scripts change places, so that no new text needs new room.
-    private void useDraft() {
+    private void takeDraft() {
         Tape readTape = tape;
         tape = textTape;
         textTape = readTape;
         Script readScript = draft;
         draft = script;
         script = readScript;
-        board.useScript(script, textTape.signs);
-        evening.start(script);
     }
 
     public int fault(int what) {
@@ -190,7 +190,7 @@ public final class TitleDesk {
             case 2:
             case 3:
             case 4:
-            case 5: return shownPage(title, what - 2);
+            case 5: return shownPage(title, what - 2, shownStep(title));
             default: return NONE;
         }
     }
@@ -200,7 +200,8 @@ public final class TitleDesk {
         if (title == NONE) {
             return NONE;
         }
-        return board.wordingOf(title, tongue).signAt(shownPage(title, tongue), row, k);
+        int page = shownPage(title, tongue, shownStep(title));
+        return board.wordingOf(title, tongue).signAt(page, row, k);
     }
 
     public int count(int what) {
@@ -227,11 +228,8 @@ public final class TitleDesk {
         return board.stepBehind(title, ahead, countedBarsOf(title));
     }
 
-    private int shownPage(int title, int tongue) {
-        if (!script.hasTongue(tongue)) {
-            return NONE;
-        }
-        return board.pageInStep(title, tongue, shownStep(title));
+    private int shownPage(int title, int tongue, int step) {
+        return script.hasTongue(tongue) ? board.pageInStep(title, tongue, step) : NONE;
     }
 
     /** times * whole / parts, cut; 0 where there are no parts to divide by. */
@@ -326,8 +324,8 @@ public final class TitleDesk {
         private int marks;
         private int beats;
         // 0 stands for a setting that is not told, and for a cut that is none
-        private final int[] widths = new int[MOST_TONGUES];
-        private final int[] speeds = new int[MOST_TONGUES];
+        final int[] widths = new int[MOST_TONGUES];
+        final int[] speeds = new int[MOST_TONGUES];
         private final int[] cutFirsts = new int[MOST_CUTS];
         private final int[] cutBehinds = new int[MOST_CUTS];
         private final int[] markBars = new int[MOST_MARKS];
@@ -367,40 +365,30 @@ public final class TitleDesk {
             return cuts >= MOST_CUTS;
         }
 
-        boolean tellsWidth(int tongue) {
-            return hasTongue(tongue) && widths[tongue] > 0;
+        boolean tells(int[] settings, int tongue) {
+            return hasTongue(tongue) && tongue < settings.length && settings[tongue] > 0;
         }
 
-        boolean tellsSpeed(int tongue) {
-            return hasTongue(tongue) && speeds[tongue] > 0;
+        void tell(int[] settings, int tongue, int told) {
+            if (hasTongue(tongue) && tongue < settings.length) {
+                settings[tongue] = told;
+            }
         }
 
         boolean tellsBeats() {
             return beats > 0;
         }
 
-        void setWidth(int tongue, int width) {
-            if (hasTongue(tongue)) {
-                widths[tongue] = width;
-            }
-        }
-
-        void setSpeed(int tongue, int speed) {
-            if (hasTongue(tongue)) {
-                speeds[tongue] = speed;
-            }
-        }
-
-        void setBeats(int told) {
+        void tellBeats(int told) {
             beats = told;
         }
 
         int widthOf(int tongue) {
-            return tellsWidth(tongue) ? widths[tongue] : PLAIN_WIDTH;
+            return tells(widths, tongue) ? widths[tongue] : PLAIN_WIDTH;
         }
 
         int speedOf(int tongue) {
-            return tellsSpeed(tongue) ? speeds[tongue] : PLAIN_SPEED;
+            return tells(speeds, tongue) ? speeds[tongue] : PLAIN_SPEED;
         }
 
         int beatsOfBar() {
@@ -677,9 +665,9 @@ public final class TitleDesk {
             for (int i = 0; i < length; i++) {
                 boolean fine;
                 if (scanner.isWord("width")) {
-                    fine = readWidth();
+                    fine = readTongueSetting(script.widths, LEAST_WIDTH, MOST_WIDTH);
                 } else if (scanner.isWord("speed")) {
-                    fine = readSpeed();
+                    fine = readTongueSetting(script.speeds, 1, MOST_SPEED);
                 } else if (scanner.isWord("beats")) {
                     fine = readBeats();
                 } else {
@@ -693,37 +681,20 @@ public final class TitleDesk {
         }
 
         // That a setting is told already is known with its tongue: this place is ahead of all that follows.
-        private boolean readWidth() {
+        private boolean readTongueSetting(int[] settings, int least, int most) {
             int place = scanner.place;
             scanner.step();
             if (!readNumber(0, script.tongues - 1)) {
                 return false;
             }
             int tongue = number;
-            if (script.tellsWidth(tongue)) {
+            if (script.tells(settings, tongue)) {
                 return fail(TOLD_OR_NOT_ABOVE, place);
             }
-            if (!readNumber(LEAST_WIDTH, MOST_WIDTH)) {
+            if (!readNumber(least, most)) {
                 return false;
             }
-            script.setWidth(tongue, number);
-            return readSemicolon();
-        }
-
-        private boolean readSpeed() {
-            int place = scanner.place;
-            scanner.step();
-            if (!readNumber(0, script.tongues - 1)) {
-                return false;
-            }
-            int tongue = number;
-            if (script.tellsSpeed(tongue)) {
-                return fail(TOLD_OR_NOT_ABOVE, place);
-            }
-            if (!readNumber(1, MOST_SPEED)) {
-                return false;
-            }
-            script.setSpeed(tongue, number);
+            script.tell(settings, tongue, number);
             return readSemicolon();
         }
 
@@ -735,7 +706,7 @@ public final class TitleDesk {
             if (!readNumber(1, MOST_BEATS)) {
                 return false;
             }
-            script.setBeats(number);
+            script.tellBeats(number);
             return readSemicolon();
         }
 
@@ -774,10 +745,12 @@ public final class TitleDesk {
         }
 
         private boolean readStrings() {
-            if (scanner.kind != Scanner.STRING || !stringIsProper()) {
+            int from = scanner.stringFrom();
+            int length = scanner.stringLength();
+            if (scanner.kind != Scanner.STRING || !Words.areProper(scanner.signs, from, length)) {
                 return fail(NO_SUCH_TOKEN, scanner.place);
             }
-            script.addTitle(scanner.stringFrom(), scanner.stringLength());
+            script.addTitle(from, length);
             scanner.step();
             for (int tongue = 1; tongue <= MOST_TONGUES && scanner.kind == Scanner.STRING; tongue++) {
                 if (!readFurtherString(tongue)) {
@@ -788,22 +761,19 @@ public final class TitleDesk {
         }
 
         private boolean readFurtherString(int tongue) {
-            boolean empty = scanner.stringLength() == 0;
-            if (!empty && !stringIsProper()) {
+            int from = scanner.stringFrom();
+            int length = scanner.stringLength();
+            if (length > 0 && !Words.areProper(scanner.signs, from, length)) {
                 return fail(NO_SUCH_TOKEN, scanner.place);
             }
             if (!script.hasTongue(tongue)) {
                 return fail(OUT_OF_SPAN, scanner.place);
             }
-            if (!empty) {
-                script.setString(tongue, scanner.stringFrom(), scanner.stringLength());
+            if (length > 0) {
+                script.setString(tongue, from, length);
             }
             scanner.step();
             return true;
-        }
-
-        private boolean stringIsProper() {
-            return Words.areProper(scanner.signs, scanner.stringFrom(), scanner.stringLength());
         }
 
         // A tongue without a string of its own has the first one's place, too.
@@ -850,13 +820,12 @@ public final class TitleDesk {
         }
     }
 
-    /** The string of a title's tongue as tonight, with its rows once a breaker has laid them out. */
+    /** The string of a title's tongue as tonight, with the rows that a breaker has written into it. */
     private static final class Wording {
         byte[] signs;
         int from;
         int length;
         boolean isChanged;
-        boolean isLaidOut;
         int pages;
         int price;
         // a second row that is none ends where its page's first one does
@@ -871,7 +840,6 @@ public final class TitleDesk {
             from = first;
             length = size;
             isChanged = changed;
-            isLaidOut = false;
         }
 
         void setRowEnd(int row, int end) {
@@ -915,17 +883,17 @@ public final class TitleDesk {
     private static final class Breaker {
         // above every price, and far enough from the greatest number to add a price to it
         private static final int NO_WAY = 1000000;
-        private static final int WORD_CELLS = MOST_WORDS + 1;
 
+        private final int[] wordBegins = new int[MOST_WORDS];
         private final int[] wordEnds = new int[MOST_WORDS];
         // the first word that has no room in a row begun with this one
-        private final int[] rowStops = new int[WORD_CELLS];
+        private final int[] rowStops = new int[MOST_WORDS + 1];
         // the least rows for this word and all behind it
-        private final int[] leastRows = new int[WORD_CELLS];
+        private final int[] leastRows = new int[MOST_WORDS + 1];
         // the most words that the slots ahead of this one can have
         private final int[] mostAhead = new int[MOST_ROWS + 1];
         // the least price of this slot and those behind it, from a word on
-        private final int[] prices = new int[(MOST_ROWS + 1) * WORD_CELLS];
+        private final int[][] prices = new int[MOST_ROWS + 1][MOST_WORDS + 1];
         private int words;
         private int width;
         private int slots;
@@ -936,18 +904,22 @@ public final class TitleDesk {
             fillRows();
             int leastPages = (leastRows[0] + PAGE_ROWS - 1) / PAGE_ROWS;
             slots = Math.min(MOST_ROWS, leastPages * PAGE_ROWS);
+            forgetPrices();
             priceWays();
             writeRows(wording);
         }
 
         private void findWords(Wording wording) {
             words = 0;
+            int begin = 0;
             for (int i = 0; i <= wording.length && words < MOST_WORDS; i++) {
                 int place = wording.from + i;
                 boolean within = i < wording.length && place >= 0 && place < wording.signs.length;
                 if (!within || wording.signs[place] == ' ') {
+                    wordBegins[words] = begin;
                     wordEnds[words] = i;
                     words++;
+                    begin = i + 1;
                 }
             }
         }
@@ -957,7 +929,7 @@ public final class TitleDesk {
             leastRows[words] = 0;
             for (int word = words - 1; word >= 0; word--) {
                 int stop = word + 1;
-                while (stop < words && rowLength(word, stop + 1) <= width) {
+                while (stop < words && wordEnds[stop] - wordBegins[word] <= width) {
                     stop++;
                 }
                 rowStops[word] = stop;
@@ -969,39 +941,37 @@ public final class TitleDesk {
             }
         }
 
-        // of a row with the words from one up to the one ahead of another
-        private int rowLength(int word, int stop) {
-            int begin = word == 0 ? 0 : wordEnds[word - 1] + 1;
-            return wordEnds[stop - 1] - begin;
-        }
-
-        private static int cell(int slot, int word) {
-            return slot * WORD_CELLS + word;
+        private void forgetPrices() {
+            for (int slot = 0; slot <= slots; slot++) {
+                for (int word = 0; word <= words; word++) {
+                    prices[slot][word] = NO_WAY;
+                }
+            }
         }
 
         // Only words that the slots ahead can reach, and whose rest the slots behind can hold, have a way.
         private void priceWays() {
-            Arrays.fill(prices, NO_WAY);
-            prices[cell(slots, words)] = 0;
+            prices[slots][words] = 0;
             for (int slot = slots - 1; slot >= 0; slot--) {
                 for (int word = mostAhead[slot]; word >= 0 && leastRows[word] <= slots - slot; word--) {
-                    prices[cell(slot, word)] = leastPrice(slot, word);
+                    prices[slot][word] = leastPrice(slot, word);
                 }
             }
         }
 
         private int leastPrice(int slot, int word) {
             boolean mayBeEmpty = slot % PAGE_ROWS != 0;
-            int least = mayBeEmpty ? prices[cell(slot + 1, word)] : NO_WAY;
+            int least = mayBeEmpty ? prices[slot + 1][word] : NO_WAY;
             for (int stop = word + 1; stop <= rowStops[word]; stop++) {
                 least = Math.min(least, priceWith(slot, word, stop));
             }
             return least;
         }
 
+        // of a slot that has the words from one up to the one ahead of another, and of those behind it
         private int priceWith(int slot, int word, int stop) {
-            int lack = width - rowLength(word, stop);
-            return lack * lack + prices[cell(slot + 1, stop)];
+            int lack = width - (wordEnds[stop - 1] - wordBegins[word]);
+            return lack * lack + prices[slot + 1][stop];
         }
 
         // From the first slot on, the most words of those that keep the least price.
@@ -1012,13 +982,12 @@ public final class TitleDesk {
                 wording.setRowEnd(slot, word > 0 ? wordEnds[word - 1] : 0);
             }
             wording.pages = slots / PAGE_ROWS;
-            wording.price = prices[cell(0, 0)];
-            wording.isLaidOut = true;
+            wording.price = prices[0][0];
         }
 
         private int longestStop(int slot, int word) {
             for (int stop = rowStops[word]; stop > word; stop--) {
-                if (priceWith(slot, word, stop) == prices[cell(slot, word)]) {
+                if (priceWith(slot, word, stop) == prices[slot][word]) {
                     return stop;
                 }
             }
@@ -1056,7 +1025,7 @@ public final class TitleDesk {
         void restoreAll() {
             for (int title = 0; title < script.titles; title++) {
                 for (int tongue = 0; tongue < script.tongues; tongue++) {
-                    if (find(title, tongue).isChanged) {
+                    if (wordingOf(title, tongue).isChanged) {
                         restore(title, tongue);
                     }
                 }
@@ -1064,34 +1033,34 @@ public final class TitleDesk {
         }
 
         void restore(int title, int tongue) {
-            int from = script.stringFrom(title, tongue);
-            int length = script.stringLength(title, tongue);
-            find(title, tongue).setString(textSigns, from, length, false);
+            if (isThere(title, tongue)) {
+                Wording wording = wordingOf(title, tongue);
+                int from = script.stringFrom(title, tongue);
+                wording.setString(textSigns, from, script.stringLength(title, tongue), false);
+                breaker.layOut(wording, script.widthOf(tongue));
+            }
         }
 
         void replace(int title, int tongue, byte[] signs) {
-            find(title, tongue).setString(signs, 0, signs.length, true);
-        }
-
-        private Wording find(int title, int tongue) {
-            if (!script.hasTitle(title) || !script.hasTongue(tongue)) {
-                return noWording;
-            }
-            return wordings[title * MOST_TONGUES + tongue];
-        }
-
-        /** Laid out; one without pages if there is no such title or tongue. */
-        Wording wordingOf(int title, int tongue) {
-            Wording wording = find(title, tongue);
-            if (wording != noWording && !wording.isLaidOut) {
+            if (isThere(title, tongue)) {
+                Wording wording = wordingOf(title, tongue);
+                wording.setString(signs, 0, signs.length, true);
                 breaker.layOut(wording, script.widthOf(tongue));
             }
-            return wording;
+        }
+
+        private boolean isThere(int title, int tongue) {
+            return script.hasTitle(title) && script.hasTongue(tongue);
+        }
+
+        /** One without pages if there is no such title or tongue. */
+        Wording wordingOf(int title, int tongue) {
+            return isThere(title, tongue) ? wordings[title * MOST_TONGUES + tongue] : noWording;
         }
 
         boolean isChanged(int title) {
             for (int tongue = 0; tongue < script.tongues; tongue++) {
-                if (find(title, tongue).isChanged) {
+                if (wordingOf(title, tongue).isChanged) {
                     return true;
                 }
             }
@@ -1165,7 +1134,9 @@ public final class TitleDesk {
             for (int name = 0; name < MOST_CUTS; name++) {
                 cutsOn[name] = false;
             }
-            lead(0, true);
+            pos = 0;
+            doubts = 0;
+            following = true;
         }
 
         void lead(int bar, boolean follow) {

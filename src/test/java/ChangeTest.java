@@ -99,6 +99,10 @@ public final class ChangeTest {
         Check.due("far too many words", Check.change(desk, 1, 1, Check.repeat("a", 600, " ")), false);
         Check.due("pages(1, 1) still", desk.pages(1, 1), 6);
         desk.text(0);
+        Check.due("a full tape of a word", Check.change(desk, 1, 2, Check.repeat("a", 1500, "")), false);
+        desk.text(0);
+        Check.due("a full tape of words", Check.change(desk, 1, 2, Check.repeat("a", 750, " ") + "a"), false);
+        desk.text(0);
         Check.due("a word wider than any", Check.change(desk, 1, 2, Check.repeat("a", 1000, "")), false);
     }
 

@@ -6,6 +6,7 @@ public final class CutTest {
         againAndAgain();
         allEightInAWorstOrder();
         barsThatCount();
+        barsBetweenEightCuts();
         Check.end();
     }
 
@@ -88,5 +89,14 @@ public final class CutTest {
             }
             desk.cut(on, true);
         }
+    }
+
+    private static void barsBetweenEightCuts() {
+        TitleDesk desk = Check.desk("tongues 1; at 1 \"a\"; blank 101; cut A 2 10; cut B 12 20; cut C 22 30; cut D 32 40;"
+                + " cut E 42 50; cut F 52 60; cut G 62 70; cut H 72 80;");
+        for (int name = 7; name >= 0; name--) {
+            desk.cut(name, true);
+        }
+        Check.due("title(0, 2)", desk.title(0, 2), 100 - 64);
     }
 }

@@ -9,6 +9,7 @@ public final class FaultTest {
         toldOrNotAbove();
         doesNotFit();
         firstAlongTheText();
+        tapesThatAreFull();
         Check.end();
     }
 
@@ -47,6 +48,16 @@ public final class FaultTest {
         due("^tonguess 1;", 1);
         due("^Tongues 1;", 1);
         due("^;", 1);
+        due("^xongues 1;", 1);
+        due("tongues 1; ^xidth 0 10;", 1);
+        due("tongues 1; ^xpeed 0 10;", 1);
+        due("tongues 1; ^xeats 4;", 1);
+        due("tongues 1; ^xt 5 \"a\";", 1);
+        due("tongues 1; ^xlank 5;", 1);
+        due("tongues 1; ^xut A 1 2;", 1);
+        due("tongues 1; ^atz 5 \"a\";", 1);
+        due("tongues 1; ^ata 5 \"a\";", 1);
+        due("tongues 1; ^zat 5 \"a\";", 1);
         due("tongues ^;", 1);
         due("tongues ^x;", 1);
         due("tongues ^-1;", 1);
@@ -193,6 +204,8 @@ public final class FaultTest {
         due("tongues 4; width 3 4; at 5 \"abcde\" \"bcdef\" \"c\" ^\"defgh\";", 4);
         due("tongues 1; width 0 4; at 3 \"abcd\"; at 5 ^\"abcde\"; at 7 \"abcde\";", 4);
         Check.due("words as wide as the width", Check.desk("tongues 1; width 0 4; at 5 \"abcd efgh\";").pages(0, 0), 1);
+        String exact = "tongues 1; width 0 5; at 5 \"" + Check.repeat("ab cd", 12, " ") + "\";";
+        Check.due("six pages of full rows", Check.desk(exact).pages(0, 0), 6);
         String full = "tongues 1; width 0 40; at 5 \"" + Check.repeat("a", 240, " ") + "\";";
         Check.due("six pages", Check.desk(full).pages(0, 0), 6);
     }
@@ -217,5 +230,24 @@ public final class FaultTest {
         due("tongues 2; width 0 4; at 5 \"abcde\" ^\" b\";", 1);
         due("tongues 1; width 0 4; at 5 ^\"abcde\"; x", 4);
         due("tongues 1; width 0 4; at 5 ^\"abcde\";at 5 \"a\";", 4);
+    }
+
+    /** A text as long as the tape, so that nothing at all stands behind its last byte. */
+    private static void tapesThatAreFull() {
+        String[] faults = {"^x", "at^", "at 1^", "at 1 ^\"", "at 1 ^\"a", "at 1 \"a\"^", "at 1 ^\"a \"", "at 1 \"a\" ^\"", "blank 9^",
+            "cut^", "cut A^", "cut A 1 2^", "width 0 9^", "^\"a\"", "^9", "^A", "^\u00ff", "blank 1; ^;", "cut A 1 2 ^B"};
+        for (String tail : faults) {
+            due(full(tail, 1501), 1);
+        }
+        String[] fine = {" ", "\n", "blank 1;", "at 1 \"a\";", "cut A 1 2;", "beats 1;"};
+        for (String tail : fine) {
+            TitleDesk desk = Check.desk(full(tail, 1500));
+            Check.due("titles of " + tail, desk.count(1), tail.startsWith("at") ? 1 : 0);
+        }
+        due("tongues 1; at 1 ^\"" + Check.repeat("a", 741, " ") + "\";", 4);
+    }
+
+    private static String full(String tail, int length) {
+        return "tongues 1;" + Check.repeat(" ", length - 10 - tail.length(), "") + tail;
     }
 }

@@ -26,6 +26,20 @@ public final class SignTest {
         Check.due("row 1 as tonight", desk.sign(1, 0, 0, 1, 0), -1);
         desk.begin();
         Check.due("the text's", Check.rows(desk, 1, 0), "ab c/def|~");
+        pagesOfAChangeAreGone();
         Check.end();
+    }
+
+    private static void pagesOfAChangeAreGone() {
+        TitleDesk desk = Check.desk("tongues 1; width 0 4; at 1 \"x\"; at 5 \"yy zz\"; at 9 \"aaa bbb ccc\";");
+        Check.change(desk, 0, 0, "aa bb cc dd ee");
+        Check.due("rows as tonight", Check.rows(desk, 0, 0), "aa/bb|cc/dd|ee");
+        desk.change(0, 0, 0);
+        for (int page = 0; page < 6; page++) {
+            for (int row = 0; row < 2; row++) {
+                int due = page + row == 0 ? 'x' : -1;
+                Check.due("sign(0, 0, " + page + ", " + row + ", 0)", desk.sign(0, 0, page, row, 0), due);
+            }
+        }
     }
 }

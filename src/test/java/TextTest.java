@@ -53,10 +53,22 @@ public final class TextTest {
         Check.due("most width", most.count(6), 40);
         Check.due("most speed", most.count(7), 20);
         Check.due("most beats", most.count(8), 8);
-        Check.text(most, "tongues 1;");
-        Check.due("width of the next text", most.count(6), 20);
-        Check.due("speed of the next text", most.count(7), 4);
-        Check.due("beats of the next text", most.count(8), 4);
+        // neither a text nor one with a fault leaves a setting behind
+        for (int i = 0; i < 3; i++) {
+            duePlain(most);
+        }
+        Check.text(most, "tongues 1; width 0 9; speed 0 9; beats 7; at 1 \"a\"; cut A 1 2; x");
+        duePlain(most);
+        Check.due("cuts behind a fault", most.count(2), 0);
+        Check.due("cut(0, true) behind a fault", most.cut(0, true), false);
+        duePlain(most);
+    }
+
+    private static void duePlain(TitleDesk desk) {
+        Check.due("titles of the next text", Check.text(desk, "tongues 1; blank 1;"), 0);
+        Check.due("width of the next text", desk.count(6), 20);
+        Check.due("speed of the next text", desk.count(7), 4);
+        Check.due("beats of the next text", desk.count(8), 4);
     }
 
     private static void notSoMany() {
