@@ -8,14 +8,20 @@ final class Check {
     static final int ELEMENT = 2;
 
     private static int wrong = 0;
+    private static String sentence = "";
 
     private Check() {
+    }
+
+    /** The document's sentence that the answers from now on belong to; it is told with each that is wrong. */
+    static void sentence(String words) {
+        sentence = "[" + words + "] ";
     }
 
     static void due(String call, long got, long want) {
         if (got != want) {
             wrong++;
-            System.out.println(call + " answered " + got + ", due is " + want);
+            System.out.println(sentence + call + " answered " + got + ", due is " + want);
         }
     }
 
@@ -26,7 +32,7 @@ final class Check {
     static void due(String call, String got, String want) {
         if (!got.equals(want)) {
             wrong++;
-            System.out.println(call + " answered [" + got + "], due is [" + want + "]");
+            System.out.println(sentence + call + " answered [" + got + "], due is [" + want + "]");
         }
     }
 
@@ -75,6 +81,25 @@ final class Check {
         return desk.change(title, tongue, string.length());
     }
 
+    /** A text with a fault, at the byte that '^' stands ahead of here. */
+    static void dueFault(String marked, int fault) {
+        int place = marked.indexOf('^');
+        String text = marked.replace("^", "");
+        TitleDesk desk = new TitleDesk();
+        due("text " + text, text(desk, text), -1);
+        due("fault(0) of " + text, desk.fault(0), fault);
+        due("fault(1) of " + text, desk.fault(1), place);
+    }
+
+    /** A text without a fault, and how many titles it has. */
+    static void dueTitles(String text, int titles) {
+        TitleDesk desk = new TitleDesk();
+        due("text " + text, text(desk, text), titles);
+        due("fault(0) of " + text, desk.fault(0), 0);
+        due("fault(1) of " + text, desk.fault(1), -1);
+        due("count(1) of " + text, desk.count(1), titles);
+    }
+
     /** A desk with a text that has no fault. */
     static TitleDesk desk(String text) {
         TitleDesk desk = new TitleDesk();
@@ -87,8 +112,10 @@ final class Check {
 
     static String row(TitleDesk desk, int title, int tongue, int page, int row) {
         StringBuilder signs = new StringBuilder();
-        for (int k = 0; k <= 40 && desk.sign(title, tongue, page, row, k) != TitleDesk.NONE; k++) {
-            signs.append((char) desk.sign(title, tongue, page, row, k));
+        int sign = desk.sign(title, tongue, page, row, 0);
+        for (int k = 1; k <= 41 && sign != TitleDesk.NONE; k++) {
+            signs.append((char) sign);
+            sign = desk.sign(title, tongue, page, row, k);
         }
         return signs.toString();
     }
@@ -96,10 +123,12 @@ final class Check {
     /** All rows of a title's tongue: '/' between the rows of a page, '|' between pages. */
     static String rows(TitleDesk desk, int title, int tongue) {
         StringBuilder all = new StringBuilder();
-        for (int page = 0; page <= 6 && desk.sign(title, tongue, page, 0, 0) != TitleDesk.NONE; page++) {
-            all.append(page > 0 ? "|" : "").append(row(desk, title, tongue, page, 0));
+        String first = row(desk, title, tongue, 0, 0);
+        for (int page = 0; page <= 6 && !first.isEmpty(); page++) {
+            all.append(page > 0 ? "|" : "").append(first);
             String second = row(desk, title, tongue, page, 1);
             all.append(second.isEmpty() ? "" : "/").append(second);
+            first = row(desk, title, tongue, page + 1, 0);
         }
         return all.toString();
     }
@@ -108,11 +137,11 @@ final class Check {
     static String now(TitleDesk desk, int tongue) {
         StringBuilder signs = new StringBuilder();
         for (int row = 0; row < 2; row++) {
-            if (row == 1 && desk.now(tongue, 1, 0) != TitleDesk.NONE) {
-                signs.append('/');
-            }
-            for (int k = 0; k <= 40 && desk.now(tongue, row, k) != TitleDesk.NONE; k++) {
-                signs.append((char) desk.now(tongue, row, k));
+            int sign = desk.now(tongue, row, 0);
+            signs.append(row == 1 && sign != TitleDesk.NONE ? "/" : "");
+            for (int k = 1; k <= 41 && sign != TitleDesk.NONE; k++) {
+                signs.append((char) sign);
+                sign = desk.now(tongue, row, k);
             }
         }
         return signs.toString();

@@ -14,12 +14,7 @@ public final class FaultTest {
     }
 
     private static void due(String marked, int fault) {
-        int place = marked.indexOf('^');
-        String text = marked.replace("^", "");
-        TitleDesk desk = new TitleDesk();
-        Check.due("text " + text, Check.text(desk, text), -1);
-        Check.due("fault(0) of " + text, desk.fault(0), fault);
-        Check.due("fault(1) of " + text, desk.fault(1), place);
+        Check.dueFault(marked, fault);
     }
 
     private static void answersOfFault() {

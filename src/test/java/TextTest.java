@@ -26,11 +26,7 @@ public final class TextTest {
     }
 
     private static void dueTitles(String text, int titles) {
-        TitleDesk desk = new TitleDesk();
-        Check.due("text " + text, Check.text(desk, text), titles);
-        Check.due("fault(0) of " + text, desk.fault(0), 0);
-        Check.due("fault(1) of " + text, desk.fault(1), -1);
-        Check.due("count(1) of " + text, desk.count(1), titles);
+        Check.dueTitles(text, titles);
     }
 
     private static void formsOfTexts() {
