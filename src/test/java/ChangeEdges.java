@@ -33,6 +33,12 @@ final class ChangeEdges {
         Check.due("491 bytes", Check.change(wide, 0, 0, Check.repeat(word, 12, " ")), true);
         Check.due("pages", wide.pages(0, 0), 6);
         Check.due("price", wide.price(0, 0), 0);
+        // the most words there can be: 20 in each of 12 rows
+        Check.due("240 words", Check.change(wide, 0, 0, Check.repeat("a", 240, " ")), true);
+        Check.due("pages of 240 words", wide.pages(0, 0), 6);
+        Check.due("price of 240 words", wide.price(0, 0), 12);
+        Check.due("the last row", Check.row(wide, 0, 0, 5, 1), Check.repeat("a", 20, " "));
+        Check.due("241 words", Check.change(wide, 0, 0, Check.repeat("a", 241, " ")), false);
     }
 
     private static void zeroBytes() {
